@@ -83,12 +83,12 @@ public final class SchemeLister {
             case 1: return now.lines;
             case 2: return now.flags();
             case 3: return now.isRegular() ? 1 : 0;
-            case 4: return now.isRegular() ? now.linesOn(0) : NONE;
-            case 5: return now.isRegular() ? now.sizeOf(0) : NONE;
+            case 4: return now.isRegular() ? now.degree[0] : NONE;
+            case 5: return now.isRegular() ? now.firstSize() : NONE;
             case 6: return now.joinedPairs();
             case 7: return now.triangles();
             case 8: return now.pieces();
-            case 9: return matcher.symmetries(now);
+            case 9: return matcher.measured(now)[0];
             case 10: return matcher.orbits(now);
             case 11: return matcher.dualities(now);
             case 12: return matcher.polarities(now);
@@ -116,7 +116,7 @@ public final class SchemeLister {
             case 0: return card.scheme.on[point];
             case 1: return card.xs[point];
             case 2: return card.ys[point];
-            case 3: return matcher.leastOfOrbit(card.scheme, point);
+            case 3: return matcher.orbitsOf(card.scheme)[point];
             case 4: return Integer.numberOfTrailingZeros(card.scheme.piece(point));
             default: throw new NoSuchElementException();
         }
@@ -139,7 +139,7 @@ public final class SchemeLister {
 
     public int symmetry(int i, int point) throws NoSuchElementException {
         needPoint(point);
-        if (i < 0 || i >= matcher.symmetries(card.scheme)) {
+        if (i < 0 || i >= matcher.measured(card.scheme)[0]) {
             throw new NoSuchElementException();
         }
         return matcher.symmetric(card.scheme, i, point);
@@ -277,6 +277,7 @@ public final class SchemeLister {
         if (n < Least.FEWEST || n > Least.WIDEST || m < 0 || m > Least.LONGEST) {
             throw new IllegalArgumentException();
         }
+        least.prepare(m);
         if (i == NONE) {
             return least.listed(n, m);
         }
@@ -424,13 +425,16 @@ public final class SchemeLister {
         final int points;
         final int lines;
         final int[] row;
+        /** How many points each line has, and how many lines go through each point. */
+        final int[] size;
+        final int[] degree = new int[MOST_POINTS];
         final int[] on = new int[MOST_POINTS];
         /** The line of two points p and q at 8 p + q; NONE without, and for p = q. */
         final int[] join = new int[MOST_POINTS * MOST_POINTS];
 
         /** What the helpers found out, kept here so that it is found once; null before. */
         int[] orders = null;
-        int[] orbit = null;
+        final int[] orbit = new int[MOST_POINTS];
         int[] leastRow = null;
         int[] solved = null;
         final int[][] drawn = new int[Drawer.BOARDS][];
@@ -441,18 +445,25 @@ public final class SchemeLister {
             this.points = points;
             this.lines = lines;
             this.row = Arrays.copyOf(numbers, lines);
+            this.size = new int[lines];
             Arrays.fill(join, NONE);
             for (int i = 0; i < lines; i++) {
                 for (int p = 0; p < points; p++) {
                     if ((row[i] >> p & 1) != 0) {
-                        on[p] |= 1 << i;
-                        for (int q = 0; q < p; q++) {
-                            if ((row[i] >> q & 1) != 0) {
-                                join[p * MOST_POINTS + q] = i;
-                                join[q * MOST_POINTS + p] = i;
-                            }
-                        }
+                        addFlag(i, p);
                     }
+                }
+            }
+        }
+
+        private void addFlag(int line, int p) {
+            size[line]++;
+            degree[p]++;
+            on[p] |= 1 << line;
+            for (int q = 0; q < p; q++) {
+                if ((row[line] >> q & 1) != 0) {
+                    join[p * MOST_POINTS + q] = line;
+                    join[q * MOST_POINTS + p] = line;
                 }
             }
         }
@@ -465,8 +476,8 @@ public final class SchemeLister {
             if (line < 0 || line >>> points != 0 || lines >= MOST_LINES) {
                 return false;
             }
-            int size = Integer.bitCount(line);
-            return size >= LEAST_ON_LINE && size <= MOST_ON_LINE && keepsApart(line, row, lines);
+            int many = Integer.bitCount(line);
+            return many >= LEAST_ON_LINE && many <= MOST_ON_LINE && keepsApart(line, row, lines);
         }
 
         /** Whether a line has one point at most in common with each of some others. */
@@ -479,30 +490,26 @@ public final class SchemeLister {
             return true;
         }
 
-        int sizeOf(int line) {
-            return line < 0 || line >= lines ? 0 : Integer.bitCount(row[line]);
-        }
-
-        int linesOn(int point) {
-            return Integer.bitCount(on[point]);
+        int firstSize() {
+            return lines == 0 ? 0 : size[0];
         }
 
         int flags() {
             int sum = 0;
             for (int i = 0; i < lines; i++) {
-                sum += sizeOf(i);
+                sum += size[i];
             }
             return sum;
         }
 
         boolean isRegular() {
             for (int p = 1; p < points; p++) {
-                if (linesOn(p) != linesOn(0)) {
+                if (degree[p] != degree[0]) {
                     return false;
                 }
             }
             for (int i = 1; i < lines; i++) {
-                if (sizeOf(i) != sizeOf(0)) {
+                if (size[i] != size[0]) {
                     return false;
                 }
             }
@@ -512,7 +519,7 @@ public final class SchemeLister {
         int joinedPairs() {
             int sum = 0;
             for (int i = 0; i < lines; i++) {
-                sum += sizeOf(i) * (sizeOf(i) - 1) / 2;
+                sum += size[i] * (size[i] - 1) / 2;
             }
             return sum;
         }
@@ -647,10 +654,10 @@ public final class SchemeLister {
             int[] numbers = new int[MOST_POINTS];
             int many = 0;
             for (int p = 0; p < points; p++) {
-                if (linesOn(p) > MOST_ON_LINE) {
+                if (degree[p] > MOST_ON_LINE) {
                     return null;
                 }
-                if (linesOn(p) >= LEAST_ON_LINE) {
+                if (degree[p] >= LEAST_ON_LINE) {
                     numbers[many] = on[p];
                     many++;
                 }
@@ -676,7 +683,7 @@ public final class SchemeLister {
         }
 
         private boolean areTwins(int p, int q) {
-            if (linesOn(p) != linesOn(q)) {
+            if (degree[p] != degree[q]) {
                 return false;
             }
             int both = 1 << p | 1 << q;
@@ -856,7 +863,7 @@ public final class SchemeLister {
         private static final int POINTS_LATE = 4;
         private static final int COMMON = 5;
 
-        private int[] text = null;
+        private int[] text = new int[0];
         private int length = 0;
         private int next = 0;
         private int kind = END;
@@ -976,7 +983,8 @@ public final class SchemeLister {
             if (kind != MINUS) {
                 return isNumber();
             }
-            if (!readNumber()) {
+            step();
+            if (!isNumber()) {
                 return false;
             }
             value = -value;
@@ -1015,7 +1023,7 @@ public final class SchemeLister {
             int first = text[next];
             if (isLetter(first)) {
                 next = pastLetters(next);
-                kind = kindOfWord();
+                kind = isWord("points") ? POINTS : isWord("line") ? LINE : isWord("at") ? AT : OTHER;
             } else if (isDigit(first)) {
                 next = pastDigits(next);
                 kind = NUMBER;
@@ -1058,16 +1066,6 @@ public final class SchemeLister {
             return sign >= '0' && sign <= '9';
         }
 
-        private int kindOfWord() {
-            if (isWord("points")) {
-                return POINTS;
-            }
-            if (isWord("line")) {
-                return LINE;
-            }
-            return isWord("at") ? AT : OTHER;
-        }
-
         private boolean isWord(String word) {
             if (next - start != word.length()) {
                 return false;
@@ -1085,14 +1083,18 @@ public final class SchemeLister {
     private static final class Matcher {
         private Scheme from = null;
         private Scheme to = null;
+        private int[] fromTwins = null;
+        private int[] toTwins = null;
         /** Whether lines become lines (and points that aren't joined stay so), or only lie within some. */
         private boolean exact = true;
         private final int[] named = new int[MOST_POINTS];
 
+        /** The latest symmetry that was asked for. */
         private Scheme symmetricOf = null;
         private int symmetricAt = NONE;
         private final int[] symmetricNow = new int[MOST_POINTS];
 
+        /** The latest two schemes of which the one was looked for in the other. */
         private Scheme withinFrom = null;
         private Scheme withinTo = null;
         private int withinMany = 0;
@@ -1101,48 +1103,46 @@ public final class SchemeLister {
         private void begin(Scheme one, Scheme other, boolean exactly) {
             from = one;
             to = other;
+            fromTwins = one.twins();
+            toTwins = other.twins();
             exact = exactly;
         }
 
-        int symmetries(Scheme scheme) {
-            return ordersOf(scheme)[0];
+        /** At p how many symmetries leave all points below p, at 0 all; found from the last point down. */
+        int[] measured(Scheme scheme) {
+            if (scheme.orders == null) {
+                int[] orders = new int[MOST_POINTS + 1];
+                Arrays.fill(orders, 1);
+                for (int p = 0; p < MOST_POINTS; p++) {
+                    scheme.orbit[p] = p;
+                }
+                begin(scheme, scheme, true);
+                for (int p = scheme.points - 1; p >= 0; p--) {
+                    orders[p] = orders[p + 1] * moves(p, scheme.orbit);
+                }
+                scheme.orders = orders;
+            }
+            return scheme.orders;
         }
 
-        int leastOfOrbit(Scheme scheme, int point) {
-            ordersOf(scheme);
-            return scheme.orbit == null ? point : scheme.orbit[point];
+        /** Of each point the least that it becomes. */
+        int[] orbitsOf(Scheme scheme) {
+            measured(scheme);
+            return scheme.orbit;
         }
 
         int orbits(Scheme scheme) {
+            int[] orbit = orbitsOf(scheme);
             int sum = 0;
             for (int p = 0; p < scheme.points; p++) {
-                if (leastOfOrbit(scheme, p) == p) {
+                if (orbit[p] == p) {
                     sum++;
                 }
             }
             return sum;
         }
 
-        /** At p how many symmetries leave all points below p; found from the last point down. */
-        private int[] ordersOf(Scheme scheme) {
-            if (scheme.orders == null) {
-                int[] orders = new int[MOST_POINTS + 1];
-                int[] orbit = new int[MOST_POINTS];
-                for (int p = 0; p < MOST_POINTS; p++) {
-                    orbit[p] = p;
-                }
-                begin(scheme, scheme, true);
-                Arrays.fill(orders, 1);
-                for (int p = scheme.points - 1; p >= 0; p--) {
-                    orders[p] = orders[p + 1] * moves(p, orbit);
-                }
-                scheme.orbit = orbit;
-                scheme.orders = orders;
-            }
-            return scheme.orders;
-        }
-
-        /** How many points p becomes while all below it stay; one symmetry for each joins the orbits. */
+        /** How many points p becomes while all below it stay; one symmetry for each of them makes the orbits. */
         private int moves(int p, int[] orbit) {
             int many = 1;
             for (int q = 0; q < p; q++) {
@@ -1150,10 +1150,10 @@ public final class SchemeLister {
             }
             int below = (1 << p) - 1;
             for (int v = p + 1; v < from.points; v++) {
-                if ((from.twins()[p] >> v & 1) != 0) {
+                if ((fromTwins[p] >> v & 1) != 0) {
                     many++;
                     unite(orbit, p, v);
-                } else if (reaches(p, v, below)) {
+                } else if (fit(p, v, 0) != NONE && finishWith(p, v, below)) {
                     many++;
                     for (int q = p; q < from.points; q++) {
                         unite(orbit, q, named[q]);
@@ -1173,27 +1173,23 @@ public final class SchemeLister {
             }
         }
 
-        private boolean reaches(int p, int v, int used) {
-            int lines = fit(p, v, 0);
-            if (lines == NONE) {
-                return false;
-            }
+        private boolean finishWith(int p, int v, int used) {
             named[p] = v;
-            return finish(p + 1, used | 1 << v, lines);
+            return finish(p + 1, used | 1 << v, 0);
         }
 
+        /** What a point becomes by the i-th of the symmetries, which has to be there. */
         int symmetric(Scheme scheme, int i, int point) {
             if (symmetricOf != scheme || symmetricAt != i) {
-                findSymmetric(scheme, i);
+                findSymmetric(scheme, measured(scheme), i);
                 symmetricOf = scheme;
                 symmetricAt = i;
             }
             return symmetricNow[point];
         }
 
-        /** Each name that a point can get leaves as many symmetries, so the index is told name by name. */
-        private void findSymmetric(Scheme scheme, int i) {
-            int[] orders = ordersOf(scheme);
+        /** Each name that a point can get leaves as many symmetries, so that the index tells name by name. */
+        private void findSymmetric(Scheme scheme, int[] orders, int i) {
             begin(scheme, scheme, true);
             int left = i;
             int used = 0;
@@ -1207,11 +1203,11 @@ public final class SchemeLister {
             System.arraycopy(named, 0, symmetricNow, 0, MOST_POINTS);
         }
 
-        /** The first name of p, after some that are skipped, by which the names so far can be finished. */
+        /** The name of p, after some that are skipped, by which the names so far can be finished. */
         private int nameAfter(int p, int used, int skipped) {
             int seen = 0;
             for (int v = 0; v < to.points; v++) {
-                if ((used >> v & 1) == 0 && reaches(p, v, used)) {
+                if ((used >> v & 1) == 0 && fit(p, v, 0) != NONE && finishWith(p, v, used)) {
                     if (seen == skipped) {
                         return v;
                     }
@@ -1221,14 +1217,16 @@ public final class SchemeLister {
             return 0;
         }
 
+        /** If there is one way, each symmetry behind it makes another one, and there are no more. */
         int likeWays(Scheme one, Scheme other) {
             if (one.points != other.points || one.lines != other.lines) {
                 return 0;
             }
             begin(one, other, true);
-            return finish(0, 0, 0) ? symmetries(other) : 0;
+            return finish(0, 0, 0) ? measured(other)[0] : 0;
         }
 
+        /** A duality names the points by those of the dual, as long as that has lost no line. */
         int dualities(Scheme scheme) {
             Scheme turned = scheme.turned();
             return turned == null || scheme.points != scheme.lines ? 0 : likeWays(scheme, turned);
@@ -1268,33 +1266,27 @@ public final class SchemeLister {
         }
 
         int withinWays(Scheme one, Scheme other) {
-            findWithin(one, other);
+            if (withinFrom != one || withinTo != other) {
+                begin(one, other, false);
+                withinMany = one.points > other.points || one.lines > other.lines ? 0 : tally(0, 0, 0) * twinOrders();
+                if (withinMany != 0 && finish(0, 0, 0)) {
+                    System.arraycopy(named, 0, withinFirst, 0, MOST_POINTS);
+                }
+                withinFrom = one;
+                withinTo = other;
+            }
             return withinMany;
         }
 
         int firstWithin(Scheme one, Scheme other, int point) {
-            findWithin(one, other);
-            return withinMany == 0 ? NONE : withinFirst[point];
+            return withinWays(one, other) == 0 ? NONE : withinFirst[point];
         }
 
-        private void findWithin(Scheme one, Scheme other) {
-            if (withinFrom == one && withinTo == other) {
-                return;
-            }
-            begin(one, other, false);
-            withinMany = one.points > other.points || one.lines > other.lines ? 0 : tally(0, 0, 0) * twinOrders(one);
-            if (withinMany != 0 && finish(0, 0, 0)) {
-                System.arraycopy(named, 0, withinFirst, 0, MOST_POINTS);
-            }
-            withinFrom = one;
-            withinTo = other;
-        }
-
-        /** In how many orders twins can stand: as many ways there are for one that the tally has. */
-        private static int twinOrders(Scheme scheme) {
+        /** In how many orders twins can be named: so many ways there are for each one of the tally. */
+        private int twinOrders() {
             int product = 1;
-            for (int p = 0; p < scheme.points; p++) {
-                product *= 1 + Integer.bitCount(scheme.twins()[p] & (1 << p) - 1);
+            for (int p = 0; p < from.points; p++) {
+                product *= 1 + Integer.bitCount(fromTwins[p] & (1 << p) - 1);
             }
             return product;
         }
@@ -1318,9 +1310,8 @@ public final class SchemeLister {
         }
 
         private int leastName(int p) {
-            int before = from.twins()[p] & (1 << p) - 1;
             for (int q = p - 1; q >= 0; q--) {
-                if ((before >> q & 1) != 0) {
+                if ((fromTwins[p] >> q & 1) != 0) {
                     return named[q] + 1;
                 }
             }
@@ -1334,7 +1325,7 @@ public final class SchemeLister {
             }
             int failed = 0;
             for (int v = 0; v < to.points; v++) {
-                if ((used >> v & 1) == 0 && (to.twins()[v] & failed) == 0) {
+                if ((used >> v & 1) == 0 && (toTwins[v] & failed) == 0) {
                     int more = fit(p, v, lines);
                     if (more != NONE) {
                         named[p] = v;
@@ -1350,9 +1341,10 @@ public final class SchemeLister {
 
         /** Whether p can be v beside the names before it: the lines that are taken then; NONE if not. */
         private int fit(int p, int v, int lines) {
-            if (exact && from.linesOn(p) != to.linesOn(v)) {
+            if (exact && from.degree[p] != to.degree[v]) {
                 return NONE;
             }
+            int below = (1 << p) - 1;
             int taken = lines;
             for (int q = 0; q < p; q++) {
                 int line = from.join[p * MOST_POINTS + q];
@@ -1363,7 +1355,8 @@ public final class SchemeLister {
                     }
                 } else if (other == NONE || !goesOn(line, other, p, v)) {
                     return NONE;
-                } else if ((from.row[line] & (1 << p) - 1) == 1 << q) {
+                } else if ((from.row[line] & below) == 1 << q) {
+                    // Here the line gets its second point, so that from now on the other one is its own.
                     if ((taken >> other & 1) != 0) {
                         return NONE;
                     }
@@ -1373,10 +1366,9 @@ public final class SchemeLister {
             return taken;
         }
 
-        /** Whether a line can be within another one, and its least point is there already. */
+        /** Whether a line can be within another one that goes through v, its least point being there already. */
         private boolean goesOn(int line, int other, int p, int v) {
-            int size = from.sizeOf(line);
-            if (exact ? size != to.sizeOf(other) : size > to.sizeOf(other)) {
+            if (exact ? from.size[line] != to.size[other] : from.size[line] > to.size[other]) {
                 return false;
             }
             int first = Integer.numberOfTrailingZeros(from.row[line]);
@@ -1393,6 +1385,7 @@ public final class SchemeLister {
         private static final int KEY_BITS = 7;
 
         private Scheme scheme = null;
+        private int[] twins = null;
         /** Of each new name the lines that end with it, as a number that is greater for a lesser row. */
         private final long[] mine = new long[MOST_POINTS];
         private final long[] best = new long[MOST_POINTS];
@@ -1409,8 +1402,7 @@ public final class SchemeLister {
 
         int[] leastRow(Scheme wanted) {
             if (wanted.leastRow == null) {
-                scheme = wanted;
-                untilBeaten = false;
+                begin(wanted, false);
                 Arrays.fill(best, NONE);
                 descend(0, 0, false);
                 int[] found = Arrays.copyOf(bestRow, wanted.lines);
@@ -1418,6 +1410,13 @@ public final class SchemeLister {
                 wanted.leastRow = found;
             }
             return wanted.leastRow;
+        }
+
+        private void begin(Scheme wanted, boolean onlyWhether) {
+            scheme = wanted;
+            twins = wanted.twins();
+            untilBeaten = onlyWhether;
+            beaten = false;
         }
 
         private static void sortUp(int[] numbers, int size) {
@@ -1434,9 +1433,7 @@ public final class SchemeLister {
 
         /** Whether a scheme with rising lines is the least by its own names. */
         private boolean isLeast(Scheme wanted) {
-            scheme = wanted;
-            untilBeaten = true;
-            beaten = false;
+            begin(wanted, true);
             for (int p = 0; p < wanted.points; p++) {
                 best[p] = keyOf(p, (1 << p) - 1, p);
                 rename(p, p);
@@ -1491,7 +1488,7 @@ public final class SchemeLister {
         }
 
         private boolean isFirstTwin(int p, int used) {
-            return (used >> p & 1) == 0 && (scheme.twins()[p] & (1 << p) - 1 & ~used) == 0;
+            return (used >> p & 1) == 0 && (twins[p] & (1 << p) - 1 & ~used) == 0;
         }
 
         private void rename(int p, int depth) {
@@ -1527,8 +1524,8 @@ public final class SchemeLister {
             return key;
         }
 
+        /** How many of the prepared rows have no point beyond some. */
         int listed(int points, int lines) {
-            prepare(lines);
             int sum = 0;
             for (int i = 0; i < many[lines]; i++) {
                 if (isWithin(points, lines, i)) {
@@ -1540,7 +1537,6 @@ public final class SchemeLister {
 
         /** Where the i-th of the list begins among the rows; NONE: there is none. */
         int startOf(int points, int lines, int i) {
-            prepare(lines);
             int seen = 0;
             for (int k = 0; k < many[lines]; k++) {
                 if (isWithin(points, lines, k)) {
@@ -1568,7 +1564,7 @@ public final class SchemeLister {
             return true;
         }
 
-        private void prepare(int lines) {
+        void prepare(int lines) {
             for (int m = ready + 1; m <= lines; m++) {
                 if (m == 0) {
                     rows[0] = new int[0];
@@ -1592,7 +1588,8 @@ public final class SchemeLister {
                 int last = lines < 2 ? 0 : row[lines - 2];
                 for (int number = last + 1; number < 1 << WIDEST; number++) {
                     row[lines - 1] = number;
-                    if (isNextLeast(row, lines)) {
+                    if (Integer.bitCount(number) == ON_TRIPLE && Scheme.keepsApart(number, row, lines - 1)
+                            && isLeast(new Scheme(WIDEST, row, lines))) {
                         found = Arrays.copyOf(found, size + lines);
                         System.arraycopy(row, 0, found, size, lines);
                         size += lines;
@@ -1601,12 +1598,6 @@ public final class SchemeLister {
             }
             rows[lines] = found;
             many[lines] = lines == 0 ? 0 : size / lines;
-        }
-
-        private boolean isNextLeast(int[] row, int lines) {
-            int number = row[lines - 1];
-            return Integer.bitCount(number) == ON_TRIPLE && Scheme.keepsApart(number, row, lines - 1)
-                    && isLeast(new Scheme(WIDEST, row, lines));
         }
     }
 
@@ -1623,11 +1614,16 @@ public final class SchemeLister {
         private final int[] third = new int[MOST_PLACES];
         private int places = 0;
 
-        private Scheme scheme = null;
+        private int points = 0;
         private int[] through = null;
-        private int freeTwins = 0;
+        private int[] twins = null;
+        /** From this point on twins get rising places alone. */
+        private int twinsFrom = 0;
         private boolean all = false;
+        /** At 8 p + q the points of the line of p and q, if it has more than these two. */
+        private final int[] told = new int[MOST_POINTS * MOST_POINTS];
         private final int[] seat = new int[MOST_POINTS];
+        /** The places that points behind p may still have at 8 p and on. */
         private final int[] room = new int[MOST_POINTS * (MOST_POINTS + 1)];
         private int[] found = null;
 
@@ -1641,8 +1637,10 @@ public final class SchemeLister {
                     markSquare(g);
                     lineOf[board] = linesOfPlaces(0);
                 }
-                prepare(wanted, lineOf[board], 0, false);
-                room[0] &= cornerPart(g);
+                prepare(wanted, lineOf[board]);
+                twinsFrom = 0;
+                all = false;
+                room[0] = cornerPart(g);
                 found[0] = seatFrom(0);
                 drawn = found;
                 wanted.drawn[board] = drawn;
@@ -1650,11 +1648,11 @@ public final class SchemeLister {
             return drawn;
         }
 
-        /** The square turned and mirrored shows the first point in this part first. */
+        /** A square can be turned and mirrored so that the first point is in this part, and nowhere is it earlier. */
         private static int cornerPart(int g) {
             int part = 0;
             for (int y = 0; y < g; y++) {
-                for (int x = y; 2 * x < g + g % 2; x++) {
+                for (int x = y; 2 * x < g; x++) {
                     part |= 1 << g * y + x;
                 }
             }
@@ -1671,37 +1669,39 @@ public final class SchemeLister {
                     markPlane(q);
                     lineOf[board] = linesOfPlaces(q);
                 }
-                drawn = drawInPlane(wanted, lineOf[board]);
+                prepare(wanted, lineOf[board]);
+                twinsFrom = 2;
+                all = true;
+                room[0] = 1;
+                room[1] = 2;
+                found[0] = seatFrom(0) * sameWays();
+                drawn = found;
                 wanted.drawn[board] = drawn;
             }
             return drawn;
         }
 
-        /** A plane looks the same from each two of its places, so that two points are set and the rest is counted. */
-        private int[] drawInPlane(Scheme wanted, int[] lines) {
-            prepare(wanted, lines, 2, true);
-            int same = places;
-            room[0] &= 1;
-            if (wanted.points > 1) {
-                same *= places - 1;
-                room[1] &= 2;
+        /** A plane looks the same from each two of its places, and twins can be put in any order. */
+        private int sameWays() {
+            int same = points > 1 ? places * (places - 1) : places;
+            for (int p = twinsFrom; p < points; p++) {
+                same *= 1 + Integer.bitCount(twins[p] & (1 << p) - (1 << twinsFrom));
             }
-            for (int p = 2; p < wanted.points; p++) {
-                same *= 1 + Integer.bitCount(scheme.twins()[p] & (1 << p) - 1 & ~3);
-            }
-            found[0] = seatFrom(0) * same;
-            return found;
+            return same;
         }
 
-        private void prepare(Scheme wanted, int[] lines, int twinsFrom, boolean wantAll) {
-            scheme = withoutPairs(wanted);
+        private void prepare(Scheme wanted, int[] lines) {
+            Scheme scheme = withoutPairs(wanted);
+            points = scheme.points;
+            twins = scheme.twins();
             through = lines;
-            freeTwins = twinsFrom;
-            all = wantAll;
             found = new int[MOST_POINTS + 1];
             Arrays.fill(found, NONE);
             for (int p = 0; p < MOST_POINTS; p++) {
                 room[p] = (1 << places) - 1;
+            }
+            for (int i = 0; i < MOST_POINTS * MOST_POINTS; i++) {
+                told[i] = scheme.join[i] == NONE ? 0 : scheme.row[scheme.join[i]];
             }
         }
 
@@ -1710,7 +1710,7 @@ public final class SchemeLister {
             int[] numbers = new int[MOST_LINES];
             int many = 0;
             for (int i = 0; i < wanted.lines; i++) {
-                if (wanted.sizeOf(i) > LEAST_ON_LINE) {
+                if (wanted.size[i] > LEAST_ON_LINE) {
                     numbers[many] = wanted.row[i];
                     many++;
                 }
@@ -1720,19 +1720,18 @@ public final class SchemeLister {
 
         /** In how many ways p and all behind it find places (1 at most, if not all are wanted). */
         private int seatFrom(int p) {
-            if (p >= scheme.points) {
+            if (p >= points) {
                 if (found[1] == NONE) {
-                    System.arraycopy(seat, 0, found, 1, scheme.points);
+                    System.arraycopy(seat, 0, found, 1, points);
                 }
                 return 1;
             }
+            int free = room[p * MOST_POINTS + p];
             int sum = 0;
             for (int place = 0; place < places && (all || sum == 0); place++) {
-                if ((room[p * MOST_POINTS + p] >> place & 1) != 0) {
+                if ((free >> place & 1) != 0 && leavesRoom(p, place)) {
                     seat[p] = place;
-                    if (leavesRoom(p, place)) {
-                        sum += seatFrom(p + 1);
-                    }
+                    sum += seatFrom(p + 1);
                 }
             }
             return sum;
@@ -1740,15 +1739,15 @@ public final class SchemeLister {
 
         /** Whether all behind p still have places, once p is there: in line with earlier ones just if told. */
         private boolean leavesRoom(int p, int place) {
-            int later = p >= freeTwins ? scheme.twins()[p] : 0;
-            for (int r = p + 1; r < scheme.points; r++) {
+            int later = p >= twinsFrom ? twins[p] : 0;
+            for (int r = p + 1; r < points; r++) {
                 int left = room[p * MOST_POINTS + r] & ~(1 << place);
                 if ((later >> r & 1) != 0) {
                     left &= -(2 << place);
                 }
                 for (int q = 0; q < p; q++) {
                     int inLine = through[place * MOST_PLACES + seat[q]];
-                    left &= onOneLine(p, q, r) ? inLine : ~inLine;
+                    left &= (told[p * MOST_POINTS + q] >> r & 1) != 0 ? inLine : ~inLine;
                 }
                 if (left == 0) {
                     return false;
@@ -1756,11 +1755,6 @@ public final class SchemeLister {
                 room[(p + 1) * MOST_POINTS + r] = left;
             }
             return true;
-        }
-
-        private boolean onOneLine(int p, int q, int r) {
-            int line = scheme.join[p * MOST_POINTS + q];
-            return line != NONE && (scheme.row[line] >> r & 1) != 0;
         }
 
         private void markSquare(int g) {
@@ -1799,8 +1793,8 @@ public final class SchemeLister {
                 for (int b = 0; b < a; b++) {
                     int inLine = 1 << a | 1 << b;
                     for (int c = 0; c < places; c++) {
-                        int span = span(a, b, c);
-                        if (span == 0 || mod > 0 && span % mod == 0) {
+                        int spanned = span(a, b, c);
+                        if (spanned == 0 || mod > 0 && spanned % mod == 0) {
                             inLine |= 1 << c;
                         }
                     }
@@ -1828,7 +1822,7 @@ public final class SchemeLister {
         /** Sets as numbers of base 3, so that mine and twice theirs tell how the game stands. */
         private final int[] ternary = new int[MASKS];
         /** What is known of a stand: 0 nothing, else 2 more than what the next one comes to. */
-        private byte[] known = null;
+        private final byte[] known = new byte[STANDS];
         private int points = 0;
 
         /** What the first one comes to, and the point. */
@@ -1851,12 +1845,8 @@ public final class SchemeLister {
 
         private void prepare(Scheme scheme) {
             points = scheme.points;
-            if (known == null) {
-                known = new byte[STANDS];
-            } else {
-                Arrays.fill(known, (byte) 0);
-            }
-            for (int mask = 1; mask < MASKS; mask++) {
+            Arrays.fill(known, (byte) 0);
+            for (int mask = 1; mask < 1 << points; mask++) {
                 ternary[mask] = 3 * ternary[mask >> 1] + (mask & 1);
                 holds[mask] = Sets.holdsLine(scheme, mask);
             }
