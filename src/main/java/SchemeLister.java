@@ -425,8 +425,10 @@ public final class SchemeLister {
         final int points;
         final int lines;
         final int[] row;
-        /** How many points each line has, and how many lines go through each point. */
+        /** How many points each line has, and the least of them. */
         final int[] size;
+        final int[] first;
+        /** How many lines go through each point, and which ones. */
         final int[] degree = new int[MOST_POINTS];
         final int[] on = new int[MOST_POINTS];
         /** The line of two points p and q at 8 p + q; NONE without, and for p = q. */
@@ -446,6 +448,7 @@ public final class SchemeLister {
             this.lines = lines;
             this.row = Arrays.copyOf(numbers, lines);
             this.size = new int[lines];
+            this.first = new int[lines];
             Arrays.fill(join, NONE);
             for (int i = 0; i < lines; i++) {
                 for (int p = 0; p < points; p++) {
@@ -457,6 +460,9 @@ public final class SchemeLister {
         }
 
         private void addFlag(int line, int p) {
+            if (size[line] == 0) {
+                first[line] = p;
+            }
             size[line]++;
             degree[p]++;
             on[p] |= 1 << line;
@@ -1153,14 +1159,21 @@ public final class SchemeLister {
                 if ((fromTwins[p] >> v & 1) != 0) {
                     many++;
                     unite(orbit, p, v);
-                } else if (fit(p, v, 0) != NONE && finishWith(p, v, below)) {
-                    many++;
-                    for (int q = p; q < from.points; q++) {
-                        unite(orbit, q, named[q]);
+                } else if (fit(p, v, 0) != NONE) {
+                    named[p] = v;
+                    if (finish(p + 1, below | 1 << v, 0)) {
+                        many++;
+                        uniteNamed(orbit);
                     }
                 }
             }
             return many;
+        }
+
+        private void uniteNamed(int[] orbit) {
+            for (int p = 0; p < from.points; p++) {
+                unite(orbit, p, named[p]);
+            }
         }
 
         private static void unite(int[] orbit, int p, int q) {
@@ -1171,11 +1184,6 @@ public final class SchemeLister {
                     orbit[i] = low;
                 }
             }
-        }
-
-        private boolean finishWith(int p, int v, int used) {
-            named[p] = v;
-            return finish(p + 1, used | 1 << v, 0);
         }
 
         /** What a point becomes by the i-th of the symmetries, which has to be there. */
@@ -1207,11 +1215,14 @@ public final class SchemeLister {
         private int nameAfter(int p, int used, int skipped) {
             int seen = 0;
             for (int v = 0; v < to.points; v++) {
-                if ((used >> v & 1) == 0 && fit(p, v, 0) != NONE && finishWith(p, v, used)) {
-                    if (seen == skipped) {
-                        return v;
+                if ((used >> v & 1) == 0 && fit(p, v, 0) != NONE) {
+                    named[p] = v;
+                    if (finish(p + 1, used | 1 << v, 0)) {
+                        if (seen == skipped) {
+                            return v;
+                        }
+                        seen++;
                     }
-                    seen++;
                 }
             }
             return 0;
@@ -1349,13 +1360,13 @@ public final class SchemeLister {
             for (int q = 0; q < p; q++) {
                 int line = from.join[p * MOST_POINTS + q];
                 int other = to.join[v * MOST_POINTS + named[q]];
-                if (line == NONE) {
-                    if (exact && other != NONE) {
-                        return NONE;
-                    }
-                } else if (other == NONE || !goesOn(line, other, p, v)) {
+                if (line == NONE ? exact && other != NONE : other == NONE || !holds(other, line)) {
                     return NONE;
-                } else if ((from.row[line] & below) == 1 << q) {
+                }
+                if (line != NONE && to.join[v * MOST_POINTS + named[from.first[line]]] != other) {
+                    return NONE;
+                }
+                if (line != NONE && (from.row[line] & below) == 1 << q) {
                     // Here the line gets its second point, so that from now on the other one is its own.
                     if ((taken >> other & 1) != 0) {
                         return NONE;
@@ -1366,13 +1377,8 @@ public final class SchemeLister {
             return taken;
         }
 
-        /** Whether a line can be within another one that goes through v, its least point being there already. */
-        private boolean goesOn(int line, int other, int p, int v) {
-            if (exact ? from.size[line] != to.size[other] : from.size[line] > to.size[other]) {
-                return false;
-            }
-            int first = Integer.numberOfTrailingZeros(from.row[line]);
-            return first >= p || to.join[v * MOST_POINTS + named[first]] == other;
+        private boolean holds(int other, int line) {
+            return exact ? to.size[other] == from.size[line] : to.size[other] >= from.size[line];
         }
     }
 

@@ -46,7 +46,7 @@ public final class SetTest {
         game("points 6;line 3 5;line 5 4;", 1, 5);
         game("line 0 1 2;", 0, 0);
         game(Check.FANO, 1, 0);
-        // Who begins beside the two lines must meet one threat, and the other one comes with the answer.
+        // Elsewhere he would leave 5 to the other one, who wins by it then.
         game("points 7;line 4 5;line 5 6;line 0 1 2 3;", 1, 5);
         game("points 8;line 0 1 2 3;line 4 5 6 7;", 0, 0);
     }

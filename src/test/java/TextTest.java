@@ -11,6 +11,7 @@ public final class TextTest {
         noPoint();
         pointsLate();
         common();
+        cutOff();
         whatStays();
         whatGoes();
         CHECK.end();
@@ -183,6 +184,38 @@ public final class TextTest {
         bad("line 0 1 2 3;line 4 3 5 2 ;", 5, 26);
         bad("line 0 1;line 0 2;line 2 1 0;", 5, 28);
         bad("line 0 1;line 0 1 2 3 4;", 1, 22);
+    }
+
+    /** What is on the tape behind the first n bytes plays no part. */
+    private static void cut(String text, int n, int fault, int place) {
+        SchemeLister x = new SchemeLister();
+        byte[] bytes = text.getBytes(java.nio.charset.StandardCharsets.ISO_8859_1);
+        for (int i = 0; i < bytes.length; i += 20) {
+            int[] w = Check.words(bytes, i);
+            x.feed(w[0], w[1], w[2], w[3], w[4]);
+        }
+        CHECK.due(n + " bytes of " + text, x.scheme(n), fault);
+        CHECK.due("place in " + n + " bytes of " + text, x.fault(), place);
+        CHECK.due("tape behind " + n + " bytes", x.count(17), 0);
+    }
+
+    private static void cutOff() {
+        cut("line 0 12;", 8, 1, 8);
+        cut("line 0 1;", 8, 1, 8);
+        cut("linex 0 1;", 4, 1, 4);
+        cut("line 0 1;;", 9, 0, -1);
+        cut("line 0 1;linex", 13, 1, 13);
+        cut("at 0 1 -23;", 9, 1, 9);
+        cut("points 45", 8, 1, 8);
+        cut("line 0 1;  x", 11, 0, -1);
+        cut("nothing", 0, 0, -1);
+        String blanks = " ".repeat(380);
+        cut(blanks + "line 1 2;line 0 3;  ", 400, 0, -1);
+        cut(blanks + "line 1 2;line 0 3 45", 400, 2, 398);
+        cut(blanks + "line 1 2;line 0 3 4 ", 400, 1, 400);
+        cut(blanks + "line 1 2; line 0 3 4", 400, 1, 400);
+        cut(blanks + "line 1 2;line 0 3;at", 400, 1, 400);
+        cut(blanks + "line 1 2;line 0 3;  ", 396, 1, 396);
     }
 
     private static void whatStays() {
