@@ -152,6 +152,8 @@ public final class BoundaryDrawTest {
         square("points 5;line 1 0 2;line 3 0 4;", 3, 0, 1, 2, 3, 6);
         // All places but the last: the middle first, then those beside it, then the corners.
         square("points 8;line 5 1 6;line 2 0 3;line 5 2 7;line 1 0 4;line 6 0 7;", 3, 4, 1, 3, 5, 7, 0, 2, 6);
+        // The same by other names: where 1 and 3 are, 4 has the first place alone.
+        square("points 8;line 4 1 3;line 2 0 6;line 4 2 5;line 1 0 7;line 3 0 5;", 3, 4, 1, 3, 2, 0, 6, 5, 7);
     }
 
     @Sentence(in = "Terms 3", says = "DRAWN in the PLANE of 2 or 3")

@@ -202,6 +202,10 @@ public final class BoundaryFigureTest {
         normals("points 8;line 4 5 6 7;line 2 4;", 3, 29);
         normals(STAR, 3, 5, 9, 17, 33);
         normals(Check.FANO, 7, 25, 42, 52, 76, 82, 97);
+        // A triangle with one line more, which goes through 0 then, in whatever order they are told.
+        normals("points 4;line 0 1;line 0 2;line 1 2;line 2 3;", 3, 5, 6, 9);
+        normals("points 4;line 0 1;line 2 3;line 1 3;line 0 3;", 3, 5, 6, 9);
+        normals("points 4;line 2 3;line 1 3;line 1 2;line 0 1;", 3, 5, 6, 9);
         // Of one object, with fewer lines and with more again.
         SchemeLister x = Check.told("line 0 1;line 2 3 4;");
         normalRow(x, 3, 28);

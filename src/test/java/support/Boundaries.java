@@ -29,6 +29,7 @@ final class Boundaries {
             if (sentence != null) {
                 all.runOne(method, sentence);
             } else if (method.getParameterCount() == 0 && method.getReturnType() == void.class && !method.isSynthetic()) {
+                check.naming("");
                 check.same("sentence of " + method.getName(), "none", "one");
             }
         }
