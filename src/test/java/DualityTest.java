@@ -4,7 +4,7 @@ import java.util.Arrays;
 import java.util.List;
 import java.util.Random;
 
-/** Promise 5, 9 to 12: schemes that may well be like their dual, against PlainLister, which tries everything. */
+/** Promise 5, what 9 to 12: schemes that may well be like their dual, against PlainLister, which tries everything. */
 public final class DualityTest {
     private static final Check CHECK = new Check();
     private static final int WANTED = 200;

@@ -40,10 +40,20 @@ public final class FaceTest {
             int how = inside.getModifiers();
             CHECK.due(inside + " is static", Modifier.isStatic(how), true);
             CHECK.due(inside + " is not shown", Modifier.isPublic(how) || Modifier.isProtected(how), false);
+            CHECK.due(inside + " has some twenty fields at most", changing(inside) <= 20, true);
         }
-        CHECK.due("some twelve classes", face.getDeclaredClasses().length <= 12, true);
+        CHECK.due(face + " has some twenty fields at most", changing(face) <= 20, true);
+        CHECK.due("some twelve classes", 1 + face.getDeclaredClasses().length <= 12, true);
         CHECK.due("NONE", SchemeLister.NONE, -1);
         CHECK.end();
+    }
+
+    private static int changing(Class<?> of) {
+        int sum = 0;
+        for (Field f : of.getDeclaredFields()) {
+            sum += Modifier.isStatic(f.getModifiers()) ? 0 : 1;
+        }
+        return sum;
     }
 
     private static String names(Class<?>[] types) {
